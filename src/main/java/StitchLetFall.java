@@ -253,7 +253,7 @@ public final class StitchLetFall {
         for (int r = 0; r < ROWS; r++) {
             place |= bit(r * PLACES + p);
         }
-        fall.from(piece, law(), place, 0, pull);
+        fall.runFrom(piece, law(), place, 0, pull);
         return Long.bitCount(what == 0 ? fall.gone : fall.gone & ~place);
     }
 
@@ -371,19 +371,19 @@ public final class StitchLetFall {
         if (!isPull(pull) || !within(n, 0, LOOPS) || !within(what, 0, 2)) {
             return BAD_NUMBER;
         }
-        if (dropHeld(c, pull, 0) <= n) {
+        if (dropPinned(c, pull, 0) <= n) {
             return what == 0 ? 0 : NONE;
         }
         // A pin on what doesn't go changes nothing, so only what went is tried.
         long tried = fall.gone & ~bit(c);
         for (int a = 0; a < LOOPS; a++) {
-            if (hasBit(tried, a) && dropHeld(c, pull, bit(a)) <= n) {
+            if (hasBit(tried, a) && dropPinned(c, pull, bit(a)) <= n) {
                 return what == 0 ? 1 : what == 1 ? a : NONE;
             }
         }
         for (int a = 0; a < LOOPS; a++) {
             for (int b = a + 1; b < LOOPS; b++) {
-                if (hasBit(tried, a) && hasBit(tried, b) && dropHeld(c, pull, bit(a) | bit(b)) <= n) {
+                if (hasBit(tried, a) && hasBit(tried, b) && dropPinned(c, pull, bit(a) | bit(b)) <= n) {
                     return what == 0 ? 2 : what == 1 ? a : b;
                 }
             }
@@ -530,7 +530,7 @@ public final class StitchLetFall {
         }
         int bits = 0;
         for (int t = 0; t < textCount && t < MOST_TEXTS; t++) {
-            fall.from(piece, texts[t], bit(c), 0, pull);
+            fall.runFrom(piece, texts[t], bit(c), 0, pull);
             if (sheets[s].firstUnlike(fall.gone) == NONE) {
                 bits |= 1 << t;
             }
@@ -796,11 +796,11 @@ public final class StitchLetFall {
 
     /** Lets one go: how many go. */
     private int drop(int c, int pull) {
-        return fall.from(piece, law(), bit(c), 0, pull);
+        return fall.runFrom(piece, law(), bit(c), 0, pull);
     }
 
-    private int dropHeld(int c, int pull, long pins) {
-        return fall.from(piece, law(), bit(c), pins, pull);
+    private int dropPinned(int c, int pull, long pins) {
+        return fall.runFrom(piece, law(), bit(c), pins, pull);
     }
 
     private int dropBoth(int a, int b, int pull) {
@@ -808,7 +808,7 @@ public final class StitchLetFall {
         if (a % PLACES / 2 != b % PLACES / 2) {
             return alone[a] + alone[b];
         }
-        return fall.from(piece, law(), bit(a) | bit(b), 0, pull);
+        return fall.runFrom(piece, law(), bit(a) | bit(b), 0, pull);
     }
 
     private int lowestRow() {
@@ -984,7 +984,7 @@ public final class StitchLetFall {
         private long stops;
 
         /** Lets the dropped ones go, those held being PINNED for this once: how many go. */
-        private int from(Piece piece, Text law, long dropped, long held, int pull) {
+        private int runFrom(Piece piece, Text law, long dropped, long held, int pull) {
             gone = 0;
             stops = 0;
             for (int c = LOOPS - 1; c >= 0; c--) {
