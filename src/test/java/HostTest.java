@@ -131,6 +131,7 @@ public final class HostTest {
             Due.due("P44: LOOP " + 3 * k, 10 * x.told(3 * k, 0) + x.told(3 * k, 1), 10 * (k % 6) + k % 10);
         }
         Due.due("P44: none", x.knits(0, 1, 0, 0), 0);
+        Due.due("P44: none, so no place is outside", x.knits(0, 1, -1, 0), 0);
         Due.due("P44: the last", x.knits(0, 1, 45, 1), 1);
         Due.due("P44: the place behind", x.knits(0, 1, 46, 1), -12);
         Due.due("P44: far behind", x.knits(0, 1, Integer.MAX_VALUE, 16), -12);
