@@ -29,7 +29,7 @@ public final class StitchLetFall {
     private int textCount;
     private final Fall fall = new Fall();
     private final Sheet[] sheets = new Sheet[SHEETS];
-    private final int[] alone = new int[LOOPS];
+    private final long[] goneAlone = new long[LOOPS];
 
     public StitchLetFall() {
         for (int t = 0; t < MOST_TEXTS; t++) {
@@ -290,7 +290,8 @@ public final class StitchLetFall {
             return BAD;
         }
         for (int c = 0; c < LOOPS; c++) {
-            alone[c] = drop(c, pull);
+            drop(c, pull);
+            goneAlone[c] = fall.gone;
         }
         int first = 0;
         int second = 1;
@@ -308,7 +309,7 @@ public final class StitchLetFall {
         switch (what) {
             case 0: return HUNDRED * first + second;
             case 1: return most;
-            default: return most - Math.max(alone[first], alone[second]);
+            default: return most - Long.bitCount(goneAlone[first] | goneAlone[second]);
         }
     }
 
@@ -806,7 +807,7 @@ public final class StitchLetFall {
     private int dropBoth(int a, int b, int pull) {
         // LOOPS go through their own PLACE and their neighbour's alone, so two others never meet.
         if (a % PLACES / 2 != b % PLACES / 2) {
-            return alone[a] + alone[b];
+            return Long.bitCount(goneAlone[a] | goneAlone[b]);
         }
         return fall.runFrom(piece, law(), bit(a) | bit(b), 0, pull);
     }

@@ -595,7 +595,9 @@ final class Plain {
                 }
             }
         }
-        return what == 0 ? 100 * x + y : what == 1 ? best : best - Math.max(goneBy(pull, x), goneBy(pull, y));
+        TreeSet<Integer> fromEither = new TreeSet<>(runOf(pull, x).left.keySet());
+        fromEither.addAll(runOf(pull, y).left.keySet());
+        return what == 0 ? 100 * x + y : what == 1 ? best : best - fromEither.size();
     }
 
     private int placesBelow(int r) {

@@ -16,6 +16,7 @@ public final class RunTest {
         reaching();
         two();
         twoOfOddLaws();
+        twoByWhichFewerGo();
         all();
         Due.end();
     }
@@ -248,10 +249,10 @@ public final class RunTest {
         StitchLetFall x = new StitchLetFall();
         Due.due("P21: by 0 the first two", x.two(0, 0), 1);
         Due.due("P21: by 0 how many", x.two(0, 1), 2);
-        Due.due("P21: by 0 how many more", x.two(0, 2), 1);
+        Due.due("P21: by 0 none more than the two alone", x.two(0, 2), 0);
         Due.due("P21: two columns", x.two(99, 0), 4243);
         Due.due("P21: how many", x.two(99, 1), 16);
-        Due.due("P21: how many more than from either", x.two(99, 2), 8);
+        Due.due("P21: none more than from either", x.two(99, 2), 0);
         Due.due("P21: by 11 of ROW 1", x.two(11, 0), 607);
         x.pin(37, 1);
         // 42 with 43: 9; 42 with 44: 16.
@@ -264,7 +265,7 @@ public final class RunTest {
         }
         Due.due("P21: joined ones go by both alone", x.two(99, 0), 4243);
         Due.due("P21: all of both", x.two(99, 1), 16);
-        Due.due("P21: 15 more than by either", x.two(99, 2), 15);
+        Due.due("P21: 14 more than from either", x.two(99, 2), 14);
         StitchLetFall y = new StitchLetFall();
         y.knit(46, 3, 0);
         y.knit(47, 3, 0);
@@ -283,7 +284,7 @@ public final class RunTest {
         StitchLetFall x = Tell.under("rub 1+(50<pull)*98;minutes 1;seen 1;");
         Due.due("P21: by 99 none takes more than itself", x.two(99, 0), 1);
         Due.due("P21: so two are two", x.two(99, 1), 2);
-        Due.due("P21: one more than either", x.two(99, 2), 1);
+        Due.due("P21: none more than the two alone", x.two(99, 2), 0);
         Due.due("P21: by 40 two columns", x.two(40, 1), 16);
         StitchLetFall z = new StitchLetFall();
         for (int c = 0; c < 48; c++) {
@@ -300,7 +301,31 @@ public final class RunTest {
         Due.due("P21: none more than from 42", y.two(99, 2), 0);
         Due.due("P21: 42 alone takes two by 11", y.two(11, 1), 3);
         Due.due("P21: with 30, of two below it", y.two(11, 0), 3042);
-        Due.due("P21: one more", y.two(11, 2), 1);
+        Due.due("P21: none more than the two and the one", y.two(11, 2), 0);
+        y.pin(0, 0);
+        for (int c = 6; c < 30; c += 6) {
+            y.pin(c, 0);
+        }
+        Due.due("P21: a column, and one that goes with it", y.two(99, 0), 42);
+        Due.due("P21: one that goes from each alone is one of theirs", y.two(99, 2), 0);
+    }
+
+    /** From 42 alone its column goes to 24, from 30 alone 25 and all below it; from both no longer 24. */
+    private static void twoByWhichFewerGo() {
+        StitchLetFall x = Tell.under("rub 1+98*((row=4)*((place=1)=(pull<99))or(row<4)*(pull=99));minutes 1;seen 1;");
+        for (int c = 0; c < 48; c++) {
+            x.pin(c, 1);
+        }
+        for (int c : new int[] {42, 36, 30, 24, 25, 19, 13, 7, 1}) {
+            x.pin(c, 0);
+        }
+        x.knit(30, 3, 0);
+        x.knit(31, 4, 0);
+        Due.due("P21: from 42 alone", x.goes(42, 99, 0), Tell.bits(42, 36, 30, 24));
+        Due.due("P21: from 30 alone", x.goes(30, 99, 0), Tell.bits(30, 25, 19, 13, 7, 1));
+        Due.due("P21: 30 and 42", x.two(99, 0), 3042);
+        Due.due("P21: 8 from both", x.two(99, 1), 8);
+        Due.due("P21: 9 from either alone", x.two(99, 2), -1);
     }
 
     private static void all() {
