@@ -220,13 +220,21 @@ public final class EdgeFallTest {
 
     private static void twoThatMeet() {
         Edge.says("Promise 21", "how many that is more than go from either alone");
-        StitchLetFall x = free(new StitchLetFall(), 0, 1, 6, 7, 12, 13, 18, 19, 24, 25, 30, 31, 36, 37, 42, 43);
-        x.knit(42, JOINED, 0);
-        x.knit(43, JOINED, 0);
-        // Each alone goes by itself, both let both columns go.
-        two(x, 99, 4243, 16, 14);
-        two(x, 10, 1, 2, 0);
-        two(x, 11, 607, 4, 0);
+        for (int p = 0; p < 6; p += 2) {
+            for (int top = 2; top < 8; top++) {
+                StitchLetFall x = free(new StitchLetFall());
+                for (int r = 0; r <= top; r++) {
+                    x.pin(6 * r + p, 0);
+                    x.pin(6 * r + p + 1, 0);
+                }
+                x.knit(6 * top + p, JOINED, 0);
+                x.knit(6 * top + p + 1, JOINED, 0);
+                // Each alone goes by itself, both let both columns go.
+                two(x, 99, 100 * (6 * top + p) + 6 * top + p + 1, 2 * top + 2, 2 * top);
+                two(x, 10, 1 + 101 * p, 2, 0);
+                two(x, 11, 607 + 101 * p, 4, 0);
+            }
+        }
         // Of one column: what goes from each of the two alone goes from either, and is counted once.
         StitchLetFall y = free(new StitchLetFall(), 42, 36, 30, 24, 18, 12, 6, 0);
         two(y, 99, 42, 8, 0);

@@ -251,6 +251,14 @@ public final class EdgeHostTest {
         }
         Edge.due(-11, x, "taken", 49, 6);
         Edge.due(-11, x, "taken", 54, 6);
+        // Those of the ROWS beside it are none of its own.
+        x.pin(6, 1);
+        x.pin(41, 1);
+        Edge.due(62, x, "taken", 48, 6);
+        Edge.due(1, x, "taken", 49, 6);
+        Edge.due(-11, x, "taken", 50, 6);
+        Edge.due(32, x, "taken", 54, 6);
+        Edge.due(62, x, "taken", 55, 6);
     }
 
     private static void takenRefused() {

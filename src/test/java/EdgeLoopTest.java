@@ -129,6 +129,18 @@ public final class EdgeLoopTest {
         Tell.feed(x, LAW);
         Edge.due(2, x, "text");
         Edge.due(0, x, "count", 3);
+        // After ever so many FAULTS a TEXT is read as the first one was.
+        StitchLetFall z = new StitchLetFall();
+        for (int i = 0; i < 40; i++) {
+            Tell.feed(z, "rub 7;minutes 8;seen 9;;");
+            Edge.due(-123, z, "text");
+        }
+        Tell.feed(z, "rub 4;minutes 5;seen 6;");
+        Edge.due(1, z, "text");
+        z.force(1);
+        Edge.due(4, z, "asks", 0, 0, 0);
+        Edge.due(5, z, "asks", 1, 0, 0);
+        Edge.due(6, z, "asks", 2, 0, 0);
         Edge.says("Promise 4", "FULL (ahead of the FAULT; then THE TAPE stays).");
         StitchLetFall y = new StitchLetFall();
         for (int t = 1; t < 6; t++) {

@@ -63,7 +63,17 @@ public final class EdgeMendTest {
         pinned(x, 42, 99, 3, 2, 24, 37);
         pinned(x, 42, 99, 1, 2, 36, 37);
         pinned(x, 42, 99, 0, -1, -1, -1);
-        // By one that comes first, though two would do, too; by two of which others are like.
+        // Where none lets just n go, fewer will do: 30 holds both columns below it.
+        StitchLetFall z = Tell.under(BY_ONE);
+        z.knit(30, JOINED, 0);
+        z.knit(31, THROWN, 0);
+        pinned(z, 42, 99, 13, 0, -1, -1);
+        pinned(z, 42, 99, 8, 1, 24, -1);
+        for (int n = 2; n < 8; n++) {
+            pinned(z, 42, 99, n, 1, 30, -1);
+        }
+        pinned(z, 42, 99, 1, 1, 36, -1);
+        // Of the last two PLACES.
         StitchLetFall y = Tell.under(BY_ONE);
         y.knit(46, JOINED, 0);
         y.knit(47, THROWN, 0);

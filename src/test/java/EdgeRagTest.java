@@ -111,6 +111,10 @@ public final class EdgeRagTest {
         Tell.rag(y, 0, 42, 36);
         Edge.due(99, y, "span", 0, 42, 0);
         Edge.due(99, y, "span", 0, 42, 1);
+        StitchLetFall w = Tell.under("rub 99;minutes 1;seen 1;");
+        Tell.rag(w, 0, 42, 36);
+        Edge.due(-1, w, "span", 0, 42, 0);
+        Edge.due(-1, w, "span", 0, 42, 1);
         // By one PULL alone; and by some with others between.
         StitchLetFall z = Tell.under("rub 99*(not pull=50);minutes 1;seen 1;");
         Tell.rag(z, 0, 42, 36, 30, 24, 18, 12, 6, 0);
@@ -130,6 +134,12 @@ public final class EdgeRagTest {
         Tell.rag(x, 0, 42, 36);
         Edge.due(1, x, "laws", 0, 42, 11);
         Edge.due(0, x, "laws", 0, 42, 10);
+        // There are no others yet, also where none would rub.
+        Tell.rag(x, 1, 0);
+        Edge.due(1, x, "laws", 1, 0, 99);
+        Tell.rag(x, 1, 42, 36, 30, 24, 18, 12, 6, 0);
+        Edge.due(0, x, "laws", 1, 42, 70);
+        Edge.due(1, x, "laws", 1, 42, 71);
         for (int t = 1; t < 6; t++) {
             Tell.text(x, "rub " + 15 * t + ";minutes 2;seen 3;");
         }
@@ -169,6 +179,8 @@ public final class EdgeRagTest {
         x.pin(0, 1);
         Edge.due(48, x, "film", 2, 0, 99);
         Edge.due(-1, x, "judge", 2, 0, 99);
+        Edge.due(48, x, "film", 3, 47, 0);
+        Edge.due(-1, x, "judge", 3, 47, 0);
         x.cell(2, 0, 65536);
         Edge.due(0, x, "judge", 2, 0, 99);
         Edge.says("Promise 36", "BAD: SHEET; -5: no such LOOP; -7: PULL.");
@@ -185,6 +197,7 @@ public final class EdgeRagTest {
         Edge.due(0, x, "slips", 0, 42, 99, 0);
         Edge.due(8, x, "slips", 0, 42, 99, 100);
         Edge.due(1, x, "slips", 99999, 0, 0, 100);
+        Edge.due(1, x, "slips", 0, 47, 0, 100);
         // By SEED 0 the first LOT is 71 of a hundred, by SEED 99999 6.
         Edge.due(0, x, "slips", 0, 42, 0, 71);
         Edge.due(1, x, "slips", 0, 42, 0, 72);

@@ -80,6 +80,13 @@ public final class EdgeTextsTest {
         Edge.fault(0, "RUB 1;");
         Edge.fault(4, "rub " + "row".repeat(52));
         Edge.fault(7, "rub row1;");
+        // Each letter of a WORD is its own.
+        for (String word : new String[] {"rub", "row", "place", "more", "pull", "face", "mended", "not"}) {
+            for (int i = 0; i < word.length(); i++) {
+                String other = word.substring(0, i) + "q" + word.substring(i + 1);
+                Edge.fault(word.equals("rub") ? 0 : 4, word.equals("rub") ? other + " 1;" : "rub " + other + " 1;");
+            }
+        }
     }
 
     private static void numbers() {

@@ -1,4 +1,7 @@
 import java.io.IOException;
+import java.lang.reflect.Field;
+import java.lang.reflect.Method;
+import java.lang.reflect.Modifier;
 import java.nio.file.Files;
 import java.nio.file.Path;
 import java.util.ArrayList;
@@ -33,7 +36,36 @@ public final class RulesTest {
         Due.due("rule 11: at most twelve classes", Math.max(12, count(code, "\\bclass\\b")), 12);
         Due.due("rule 12: nothing is made but with the object", count(methodsOnly(code), "\\bnew\\b"), 0);
         lengths(all);
+        members(StitchLetFall.class);
+        for (Class<?> inner : StitchLetFall.class.getDeclaredClasses()) {
+            Due.due("rule 1: " + inner + " is private and static", inner.getModifiers() & ~Modifier.FINAL, Modifier.PRIVATE | Modifier.STATIC);
+            Due.due("rule 2: " + inner + " has no class inside", inner.getDeclaredClasses().length, 0);
+            members(inner);
+        }
         Due.end();
+    }
+
+    /** What a class has: its fields and what its methods take. */
+    private static void members(Class<?> c) {
+        int own = 0;
+        for (Field f : c.getDeclaredFields()) {
+            boolean isStatic = Modifier.isStatic(f.getModifiers());
+            own += isStatic ? 0 : 1;
+            Class<?> type = f.getType();
+            if (isStatic) {
+                boolean isConstant = Modifier.isFinal(f.getModifiers()) && (type == int.class || type == long.class || type == String.class);
+                Due.due("rule 5: " + f + " is a constant", isConstant ? 1 : 0, 1);
+            } else {
+                Class<?> each = type.isArray() ? type.getComponentType() : type;
+                boolean isOwn = each.getName().startsWith("StitchLetFall");
+                boolean isNumber = each == int.class || each == long.class || each == boolean.class;
+                Due.due("rule 3: the type of " + f, isOwn || isNumber ? 1 : 0, 1);
+            }
+        }
+        Due.due("rule 11: at most twenty fields in " + c, Math.max(20, own), 20);
+        for (Method m : c.getDeclaredMethods()) {
+            Due.due("rule 11: at most seven parameters of " + m, Math.max(7, m.getParameterCount()), 7);
+        }
     }
 
     private static int count(String code, String pattern) {
