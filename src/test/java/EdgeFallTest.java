@@ -271,6 +271,9 @@ public final class EdgeFallTest {
         Edge.due(0, v, "all", 42);
         StitchLetFall u = Tell.under("rub 99*(pull=40);minutes 1;seen 1;");
         Edge.due(41, u, "all", 42);
+        // What would be by more than 99 is of no account.
+        StitchLetFall t = Tell.under("rub 99*(99<pull);minutes 1;seen 1;");
+        Edge.due(1, t, "all", 42);
         Edge.says("Promise 22", "-5: no such LOOP.");
         Edge.refused(-5, x, "all", Edge.of(-1), Edge.of(48), Edge.of(Edge.MIN), Edge.of(Edge.MAX));
     }
