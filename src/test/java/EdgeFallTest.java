@@ -272,8 +272,8 @@ public final class EdgeFallTest {
         StitchLetFall u = Tell.under("rub 99*(pull=40);minutes 1;seen 1;");
         Edge.due(41, u, "all", 42);
         // What would be by more than 99 is of no account.
-        StitchLetFall t = Tell.under("rub 99*(99<pull);minutes 1;seen 1;");
-        Edge.due(1, t, "all", 42);
+        StitchLetFall t = Tell.under("rub 99*(99<pull or pull=1);minutes 1;seen 1;");
+        Edge.due(2, t, "all", 42);
         Edge.says("Promise 22", "-5: no such LOOP.");
         Edge.refused(-5, x, "all", Edge.of(-1), Edge.of(48), Edge.of(Edge.MIN), Edge.of(Edge.MAX));
     }
